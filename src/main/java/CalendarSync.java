@@ -756,7 +756,6 @@ public final class CalendarSync {
             zoneCount = 0;
             for (int zone = 0; zone < MOST_ZONES; zone++) {
                 zones[zone].setTo(0, NONE, NONE);
-                zones[zone].version = 0;
             }
             for (int event = 0; event < MOST_EVENTS; event++) {
                 events[event].vanish();
@@ -1238,7 +1237,13 @@ public final class CalendarSync {
             text.beginTokens(length);
             boolean isRead = true;
             for (int k = 0; k < MOST_ROUNDS && isRead && text.kind != Text.END; k++) {
-                isRead = readStatement();
+                if (text.isWord("zone")) {
+                    isRead = readZone() && readSummer() && takeSemicolon();
+                } else if (text.isWord("event")) {
+                    isRead = readEvent() && readRule() && readExceptions() && takeSemicolon();
+                } else {
+                    isRead = fail(SYNTAX);
+                }
             }
             draft.zoneCount = Math.max(1, draft.zoneCount);
             return isRead;
@@ -1248,18 +1253,6 @@ public final class CalendarSync {
             errorCode = code;
             errorPosition = text.start;
             return false;
-        }
-
-        private boolean readStatement() {
-            boolean isRead;
-            if (text.isWord("zone")) {
-                isRead = readZone() && readSummer();
-            } else if (text.isWord("event")) {
-                isRead = readEvent() && readRule() && readExceptions();
-            } else {
-                isRead = fail(SYNTAX);
-            }
-            return isRead && takeSemicolon();
         }
 
         private boolean takeSemicolon() {

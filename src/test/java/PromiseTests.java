@@ -46,6 +46,7 @@ final class PromiseTests {
         tests.pullTells();
         tests.sync();
         tests.undo();
+        tests.undoOfChanges();
         tests.undoOfEachAct();
         tests.slots();
         tests.checks.end();
@@ -81,6 +82,8 @@ final class PromiseTests {
         checks.same("1 errorCode", 0, x.errorCode());
         checks.same("1 errorPosition", -1, x.errorPosition());
         checks.same("1 buffer is empty", 20, x.feed(0, 0, 0, 0, 0));
+        checks.same("1 one can be made", 1, x.create(1, 0, 0, 0, 1, 0));
+        checks.same("1 that had not come from the store", NONE, x.event(1, 0, 8));
     }
 
     // ---- 2 to 5, and the section on text
@@ -155,6 +158,22 @@ final class PromiseTests {
         checks.same("3 version", 0, y.event(2, 1, 8));
         checks.same("3 zone's version", 0, y.zone(2, 0, 3));
         checks.same("3 what was cancelled is not", 0, y.event(2, 0, 10));
+        checks.element("3 no event 2", () -> y.event(2, 2, 0));
+        y.create(0, 2, 0, 0, 1, 0);
+        Feeding.loadText(y, "zone 5 summer 1 2;" + "event 1 1 1 0;".repeat(8));
+        Feeding.loadText(y, "zone 6;event 1 1 1 0;");
+        checks.same("3 a smaller one", 1, y.events(0));
+        checks.same("3 no summer is left", NONE, y.zone(0, 0, 1));
+        checks.same("3 no summer is left", NONE, y.zone(0, 0, 2));
+        y.create(0, 3, 0, 0, 1, 0);
+        checks.same("3 not from the store", NONE, y.event(0, 3, 8));
+        Feeding.loadText(y, "zone 5 summer 1 2;");
+        y.load(0);
+        checks.same("3 no zone is left", 0, y.zone(2, 0, 0));
+        checks.same("3 no summer is left", NONE, y.zone(2, 0, 1));
+        checks.same("3 no summer is left", NONE, y.zone(2, 0, 2));
+        checks.same("3 a word ends with the text", 7 + 4, errorOfPrefix("zone 5;zonex", 11));
+        checks.same("3 a number ends with the text", 7, errorOfPrefix("zone 721;", 7));
         checks.same("3 the first bytes alone", 1, prefix("zone 5;event 1 1 1 0;event 2 2 2 0;", 21));
     }
 
@@ -162,6 +181,13 @@ final class PromiseTests {
         CalendarSync x = new CalendarSync();
         Feeding.feedText(x, text);
         return x.load(length);
+    }
+
+    private int errorOfPrefix(String text, int length) {
+        CalendarSync x = new CalendarSync();
+        Feeding.feedText(x, text);
+        checks.state("3 the first bytes of " + text, () -> x.load(length));
+        return x.errorPosition();
     }
 
     private void texts() {
@@ -197,6 +223,12 @@ final class PromiseTests {
         checks.same("4 kind", 3, z.event(2, 1, 4));
         checks.same("4 n", 3, z.event(2, 1, 5));
         checks.same("4 no weekdays", 0, z.event(2, 1, 6));
+        CalendarSync two = Feeding.of("zone 0;event 0 0 1 0 every 1 weeks mo times 1 move 0 1094 1439;"
+            + "event 0 0 1 0 every 1 weeks mo tu times 1;");
+        checks.same("4 weekdays of the first one", 1, two.event(2, 0, 6));
+        checks.same("4 weekdays of the second one", 3, two.event(2, 1, 6));
+        checks.same("4 once", 1, two.event(2, 0, 9));
+        checks.same("4 last minute", 1439, two.date(2, 0, 0, 1));
     }
 
     private void textErrors() {
@@ -204,6 +236,11 @@ final class PromiseTests {
         wrong("x", 1, 0);
         wrong("zon 5;", 1, 0);
         wrong("zones 5;", 1, 0);
+        wrong("xone 5;", 1, 0);
+        wrong("zonf 5;", 1, 0);
+        wrong("zone 5;event 1 2 3 0 every 1 weeks xx times 4;", 1, 35);
+        wrong("zone 5;event 1 2 3 0 every 1 weeks mu times 4;", 1, 35);
+        wrong("zone 5;event 1 2 3 0 every 1 weeks m times 4;", 1, 35);
         wrong("Zone 5;", 1, 0);
         wrong("zoNe 5;", 1, 0);
         wrong(";", 1, 0);
@@ -290,6 +327,8 @@ final class PromiseTests {
         // 3 TWICE
         wrong("zone 5;event 1 2 3 0 every 1 weeks mo tu mo times 3;", 3, 41);
         wrong("zone 5;event 1 2 3 0 every 1 weeks su su times 3;", 3, 38);
+        wrong("zone 5;event 1 2 3 0 every 1 weeks mo tu we th fr sa su tu times 3;", 3, 56);
+        wrong("zone 5;event 1 2 3 0 every 1 weeks mo tu we th fr sa su 1;", 1, 56);
         wrong("zone 5;event 1 2 3 0 not 0 not 0;", 3, 31);
         wrong("zone 5;event 1 2 3 0 every 1 days times 3 not 2 not 1 not 02;", 3, 58);
         // 4 LIMIT
@@ -480,6 +519,8 @@ final class PromiseTests {
         dates("event 2 0 1 0 every 1 weeks mo we times 4", 2, 7, 9, 14);
         dates("event 2 0 1 0 every 2 weeks mo we times 4", 2, 14, 16, 28);
         dates("event 3 0 1 0 every 2 weeks mo we times 3", 14, 16, 28);
+        dates("event 0 0 1 0 every 2 weeks tu fr times 4", 1, 4, 15, 18);
+        dates("event 12 0 1 0 every 4 weeks tu sa times 4", 12, 36, 40, 64);
         dates("event 6 0 1 0 every 3 weeks mo su times 4", 6, 21, 27, 42);
         dates("event 7 0 1 0 every 9 weeks su times 2", 13, 76);
         dates("event 1088 0 1 0 every 1 weeks tu we th times 9", 1088, 1093, 1094);
@@ -628,6 +669,11 @@ final class PromiseTests {
         checks.element("14 none", () -> x.agendaAt(0, MOST, 0, 0));
         checks.index("14 what", () -> x.agendaAt(0, 0, 0, 3));
         checks.index("14 what", () -> x.agendaAt(0, 0, 0, -1));
+        // An event that comes later in its number, but first in time.
+        CalendarSync first = Feeding.of("zone 0;event 9 0 1 0;event 5 0 1 0;event 1 0 1 0;");
+        checks.same("14 first", 2, first.agendaAt(0, 0, 0, 0));
+        checks.same("14 second", 1, first.agendaAt(0, 0, 1, 0));
+        checks.same("14 third", 0, first.agendaAt(0, 0, 2, 0));
         // Two dates of one event at one moment: the lower number is first.
         CalendarSync y = Feeding.of("zone 0;event 5 0 1 0 every 1 days times 3 move 2 5 0;");
         checks.same("14 dates", 0, y.agendaAt(0, 0, 0, 1));
@@ -765,6 +811,10 @@ final class PromiseTests {
         checks.holds("18 the same answer to the date", answers.isSame(0));
         answers.pull(1);
         checks.holds("18 pulled", answers.isSame(1));
+        answers.reply(1, 0, 0, 2);
+        checks.holds("18 side 1's answer", answers.isSame(0) && !answers.isSame(1));
+        answers.push(1);
+        checks.holds("18 side 1's answer in the store", !answers.isSame(0) && answers.isSame(1));
         // The same moments, but of other dates.
         CalendarSync numbers = Feeding.of("zone 0;event 0 0 10 0 every 1 days times 2 not 1;");
         numbers.cancel(0, 0, 0);
@@ -960,6 +1010,10 @@ final class PromiseTests {
         checks.same("23 n of once", 0, x.event(0, 0, 5));
         checks.same("23 weekdays of once", 0, x.event(0, 0, 6));
         checks.same("23 times of once", 1, x.event(0, 0, 7));
+        checks.same("23 all weekdays", 30, x.repeat(0, 0, 2, 1, 127, 30));
+        checks.same("23 weekdays", 127, x.event(0, 0, 6));
+        checks.same("23 once, of weeks", 1, x.repeat(0, 0, 0, 1, 1, 1));
+        checks.same("23 weekdays of once", 0, x.event(0, 0, 6));
         checks.same("23 no dates", 0, noDates());
         checks.argument("23 side", () -> x.repeat(2, 9, 1, 1, 1, 1));
         checks.argument("23 side", () -> x.repeat(-1, 0, 0, 1, 1, 1));
@@ -1198,6 +1252,18 @@ final class PromiseTests {
         checks.same("29 dates", 2, x.event(1, 0, 9));
         checks.same("29 an answer to a date that it has", 3, x.date(2, 0, 1, 6));
         checks.index("29 the others are left out", () -> x.date(2, 0, 4, 6));
+        // All 30 dates have answers that are merged.
+        CalendarSync all = Feeding.of("zone 0;event 3 4 10 0 every 1 days times 30;");
+        all.move(0, 0, 0, 1, 1);
+        all.push(0);
+        for (int d = 0; d < 30; d++) {
+            all.reply(1, 0, d, 1 + d % 3);
+        }
+        all.push(1);
+        checks.same("29 merged", 1, all.account(1, 1));
+        for (int d = 0; d < 30; d++) {
+            checks.same("29 date " + d, 1 + d % 3, all.date(2, 0, d, 6));
+        }
         // A side that has fewer dates replaces all of its answers.
         CalendarSync y = Feeding.of("zone 0;event 3 4 10 0;");
         y.pull(1);
@@ -1414,6 +1480,28 @@ final class PromiseTests {
         checks.same("32 the buffer stays", 40, x.feed(0, 0, 0, 0, 0));
         checks.same("32 the slot stays", 0, x.restore(1));
         checks.same("32 what was kept", 35, x.event(0, 0, 10));
+    }
+
+    /** What is undone, or brought back, are the remembered changes, too. */
+    private void undoOfChanges() {
+        CalendarSync x = Feeding.of("zone 0;event 3 4 10 0;event 3 4 10 0;event 3 4 10 0;");
+        x.cancel(0, 2, 0);
+        x.push(0);
+        for (int k = 0; k < 7; k++) {
+            x.setZone(0, k, NONE, 0);
+        }
+        checks.same("32 told", 4, x.side(1, 4));
+        x.keep(0);
+        x.cancel(0, 1, 0);
+        x.push(0);
+        checks.same("32 too old", 7, x.side(1, 4));
+        x.undo();
+        checks.same("32 told again", 4, x.side(1, 4));
+        for (int k = 0; k < 9; k++) {
+            x.setZone(0, k, NONE, 0);
+        }
+        x.restore(0);
+        checks.same("34 told again", 4, x.side(1, 4));
     }
 
     private void undoOfEachAct() {
