@@ -1141,33 +1141,25 @@ public final class CalendarSync {
                 behind++;
             }
             start = behind;
+            value = 0;
             if (start >= end) {
                 kind = END;
             } else if (isLetter(bytes[start])) {
-                stepWord();
+                kind = WORD;
+                while (behind < end && isLetter(bytes[behind])) {
+                    behind++;
+                }
             } else if (isDigit(bytes[start])) {
-                stepNumber();
+                while (behind < end && isDigit(bytes[behind])) {
+                    // A number that is too long is not used, so it may wrap around.
+                    value = value * 10 + bytes[behind] - '0';
+                    behind++;
+                }
+                kind = behind - start > MOST_DIGITS ? WRONG : NUMBER;
             } else {
                 kind = bytes[start] == ';' ? SEMICOLON : bytes[start] == '-' ? MINUS : WRONG;
                 behind++;
             }
-        }
-
-        private void stepWord() {
-            kind = WORD;
-            while (behind < end && isLetter(bytes[behind])) {
-                behind++;
-            }
-        }
-
-        private void stepNumber() {
-            value = 0;
-            while (behind < end && isDigit(bytes[behind])) {
-                // A number that is too long is not used, so it may wrap around.
-                value = value * 10 + bytes[behind] - '0';
-                behind++;
-            }
-            kind = behind - start > MOST_DIGITS ? WRONG : NUMBER;
         }
 
         boolean isWord(String word) {
