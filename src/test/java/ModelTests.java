@@ -1,15 +1,21 @@
 import java.util.Random;
 
-/** Random runs of calls, whose answers are those of the model. The seeds are written here, so each run is the same. */
+/**
+ * Random runs of calls, whose answers are those of the model. The seeds are written here, so each run is
+ * the same. What an object answers behind its 512th call is free, so it is not asked any more then.
+ */
 final class ModelTests {
-    private static final int RUNS = 1500;
+    private static final int RUNS = 20000;
     private static final int TEXTS = 40000;
     private static final int CALLS = 512;
+    /** A text is fed by 40 calls at most, and is looked at behind that. */
+    private static final int CALLS_OF_A_TEXT = 200;
 
     private final Checks checks = new Checks();
     private Random random;
     private CalendarSync sync;
     private Model model;
+    private int calls;
 
     public static void main(String[] args) {
         ModelTests tests = new ModelTests();
@@ -20,14 +26,19 @@ final class ModelTests {
         tests.checks.end();
     }
 
+    private void begin() {
+        sync = new CalendarSync();
+        model = new Model();
+        calls = 0;
+    }
+
     // ---- texts
 
     private void texts() {
         random = new Random(7);
         for (int k = 0; k < TEXTS; k++) {
-            if (k % 100 == 0) {
-                sync = new CalendarSync();
-                model = new Model();
+            if (k == 0 || calls > CALLS - CALLS_OF_A_TEXT) {
+                begin();
             }
             String text = text();
             for (int damages = random.nextInt(3); damages > 0; damages--) {
@@ -44,14 +55,13 @@ final class ModelTests {
             for (int k = 0; k < 5; k++) {
                 w[k] = Feeding.four(shortText, at + 4 * k);
             }
-            sync.feed(w[0], w[1], w[2], w[3], w[4]);
-            model.feed(w[0], w[1], w[2], w[3], w[4]);
+            same("feed", () -> sync.feed(w[0], w[1], w[2], w[3], w[4]), () -> model.feed(w[0], w[1], w[2], w[3], w[4]));
         }
         int length = shortText.length();
         same("load " + shortText, () -> sync.load(length), () -> model.load(length));
         same("errorCode " + shortText, () -> sync.errorCode(), () -> model.errorCode());
         same("errorPosition " + shortText, () -> sync.errorPosition(), () -> model.errorPosition());
-        look("after " + shortText);
+        look("after " + shortText, CALLS_OF_A_TEXT / 2);
     }
 
     private String text() {
@@ -140,20 +150,24 @@ final class ModelTests {
 
     private void run(int run) {
         random = new Random(1000 + run);
-        sync = new CalendarSync();
-        model = new Model();
+        begin();
         StringBuilder told = new StringBuilder("run " + run + " call ");
         int base = told.length();
         if (random.nextInt(8) > 0) {
             load(text());
         }
         int events = 1 + random.nextInt(8);
-        for (int call = 0; call < CALLS; call++) {
+        // Many acts and a look at the end, or fewer ones with questions between them.
+        boolean isAsked = random.nextBoolean();
+        int acts = random.nextInt(CALLS);
+        while (calls < CALLS) {
             told.setLength(base);
-            act(told.append(call).append(' ').toString(), events);
-            ask(told.toString());
-            if (call % 8 == 0) {
-                look(told.toString());
+            act(told.append(calls).append(' ').toString(), events);
+            if (isAsked) {
+                ask(told.toString());
+            }
+            if (isAsked ? random.nextInt(8) == 0 : calls > acts) {
+                look(told.toString(), isAsked ? 60 : CALLS);
             }
         }
     }
@@ -293,49 +307,60 @@ final class ModelTests {
         }
     }
 
-    /** Looks at all that can be asked without a moment. */
-    private void look(String told) {
-        checks.same(told + "clock", model.clock(), sync.clock());
-        for (int s = 0; s < 2; s++) {
-            int side = s;
-            same(told + "isSame", () -> sync.isSame(side) ? 1 : 0, () -> model.isSame(side) ? 1 : 0);
-            for (int k = 0; k < 5; k++) {
-                checks.same(told + "side " + k, model.side(s, k), sync.side(s, k));
-            }
-            for (int k = 0; k < 6; k++) {
-                checks.same(told + "account " + k, model.account(s, k), sync.account(s, k));
-            }
+    /** Looks at what can be asked without a moment, by at most so many calls: at another part each time. */
+    private void look(String told, int most) {
+        int end = Math.min(CALLS, calls + most);
+        same(told + "clock", () -> sync.clock(), () -> model.clock());
+        for (int k = 0; k < 22; k++) {
+            int s = k / 11;
+            int what = k % 11;
+            same(told + "side " + what, () -> what < 5 ? sync.side(s, what) : sync.account(s, what - 5),
+                () -> what < 5 ? model.side(s, what) : model.account(s, what - 5));
         }
-        for (int p = 0; p < 3; p++) {
-            int place = p;
-            same(told + "events", () -> sync.events(place), () -> model.events(place));
-            same(told + "clashes", () -> sync.clashes(place), () -> model.clashes(place));
-            for (int z = 0; z < 12; z++) {
-                int k = z;
-                same(told + "zone", () -> sync.zone(place, k / 4, k % 4), () -> model.zone(place, k / 4, k % 4));
+        int turn = random.nextInt(24);
+        for (int k = 0; k < 24 && calls < end; k++) {
+            int p = (k + turn) % 3;
+            int e = (k + turn) / 3 % 8;
+            if (e == 0) {
+                lookAtPlace(told, p);
             }
-            for (int e = 0; e < 8; e++) {
-                if ((model.events(p) & 1 << e) != 0) {
-                    lookAtEvent(told, p, e);
-                }
+            if ((model.events(p) & 1 << e) != 0) {
+                lookAtEvent(told, p, e);
             }
         }
     }
 
-    private void lookAtEvent(String told, int p, int e) {
-        for (int k = 0; k < 12; k++) {
-            checks.same(told + "event " + k, model.event(p, e, k), sync.event(p, e, k));
+    private void lookAtPlace(String told, int p) {
+        same(told + "events", () -> sync.events(p), () -> model.events(p));
+        same(told + "clashes", () -> sync.clashes(p), () -> model.clashes(p));
+        same(told + "isSame", () -> sync.isSame(p) ? 1 : 0, () -> model.isSame(p) ? 1 : 0);
+        for (int z = 0; z < 12; z++) {
+            int k = z;
+            same(told + "zone", () -> sync.zone(p, k / 4, k % 4), () -> model.zone(p, k / 4, k % 4));
         }
-        checks.same(told + "answer", model.answer(p, e, 0), sync.answer(p, e, 0));
-        checks.same(told + "answer", model.answer(p, e, 1), sync.answer(p, e, 1));
-        for (int d = 0; d < model.event(p, e, 9); d++) {
-            for (int k = 0; k < 7; k++) {
-                checks.same(told + "date " + k, model.date(p, e, d, k), sync.date(p, e, d, k));
+    }
+
+    private void lookAtEvent(String told, int p, int e) {
+        for (int k = 0; k < 14; k++) {
+            int what = k;
+            same(told + "event " + k, () -> what < 12 ? sync.event(p, e, what) : sync.answer(p, e, what - 12),
+                () -> what < 12 ? model.event(p, e, what) : model.answer(p, e, what - 12));
+        }
+        int dates = model.event(p, e, 9);
+        int turn = dates > 4 ? random.nextInt(dates) : 0;
+        for (int k = 0; k < Math.min(4, dates); k++) {
+            int d = (k + turn) % dates;
+            for (int w = 0; w < 7; w++) {
+                int what = w;
+                same(told + "date " + w, () -> sync.date(p, e, d, what), () -> model.date(p, e, d, what));
             }
         }
     }
 
     private void same(String what, Checks.Call real, Checks.Call due) {
-        checks.answers(what, Checks.outcome(due), real);
+        if (calls < CALLS) {
+            calls++;
+            checks.answers(what, Checks.outcome(due), real);
+        }
     }
 }

@@ -385,11 +385,11 @@ final class PromiseTests {
     // ---- 6 to 8
 
     private void day() {
-        CalendarSync x = new CalendarSync();
         int[] lengths = {31, 28, 31, 30, 31, 30, 31, 31, 30, 31, 30, 31};
         int day = 0;
         for (int year = 0; year < 3; year++) {
             for (int month = 0; month < 12; month++) {
+                CalendarSync x = new CalendarSync();
                 for (int of = 1; of <= lengths[month]; of++) {
                     checks.same("6 month", month + 1, x.day(day, 0));
                     checks.same("6 day of the month", of, x.day(day, 1));
@@ -399,6 +399,7 @@ final class PromiseTests {
                 }
             }
         }
+        CalendarSync x = new CalendarSync();
         checks.same("6 all days", 1095, day);
         checks.argument("6 day", () -> x.day(1095, 0));
         checks.argument("6 day", () -> x.day(-1, 0));
@@ -1526,6 +1527,17 @@ final class PromiseTests {
     }
 
     private void undone(String what, Act act) {
+        String before = Picture.of(beforeAnAct());
+        CalendarSync done = beforeAnAct();
+        act.of(done);
+        checks.holds("32 " + what + " does something", !before.equals(Picture.of(done)));
+        CalendarSync x = beforeAnAct();
+        act.of(x);
+        checks.same("32 " + what, 9, x.undo());
+        checks.holds("32 all is as before " + what, before.equals(Picture.of(x)));
+    }
+
+    private static CalendarSync beforeAnAct() {
         CalendarSync x = Feeding.of("zone 0 summer 3 4;event 3 4 10 0 every 1 days times 5 not 3 move 4 1 1;event 1 1 1 0;event 2 2 2 0;");
         x.cancel(1, 0, 0);
         x.cancel(1, 1, 0);
@@ -1536,81 +1548,56 @@ final class PromiseTests {
         x.remove(0, 2);
         x.create(0, 5, 0, 0, 1, 0);
         x.reply(1, 0, 2, 2);
-        String before = picture(x);
-        act.of(x);
-        checks.holds("32 " + what + " does something", !before.equals(picture(x)));
-        checks.same("32 " + what, 9, x.undo());
-        checks.holds("32 all is as before " + what, before.equals(picture(x)));
+        return x;
     }
 
-    /** All that can be asked of an object. */
-    private static String picture(CalendarSync x) {
-        StringBuilder all = new StringBuilder();
-        all.append(x.clock());
-        for (int s = 0; s < 2; s++) {
-            for (int k = 0; k < 5; k++) {
-                all.append(' ').append(x.side(s, k));
-            }
-            for (int k = 0; k < 6; k++) {
-                all.append(' ').append(x.account(s, k));
-            }
-        }
-        for (int p = 0; p < 3; p++) {
-            for (int k = 0; k < 4; k++) {
-                all.append(' ').append(x.zone(p, 0, k));
-            }
-            for (int e = 0; e < 8; e++) {
-                all.append(" event ");
-                if ((x.events(p) & 1 << e) != 0) {
-                    picture(all, x, p, e);
-                }
-            }
-        }
-        return all.toString();
-    }
-
-    private static void picture(StringBuilder all, CalendarSync x, int p, int e) {
-        for (int k = 0; k < 12; k++) {
-            all.append(' ').append(x.event(p, e, k));
-        }
-        all.append(' ').append(x.answer(p, e, 0)).append(' ').append(x.answer(p, e, 1));
-        for (int d = 0; d < x.event(p, e, 9); d++) {
-            for (int k = 0; k < 7; k++) {
-                all.append(' ').append(x.date(p, e, d, k));
-            }
-        }
+    /** Slot 0 has the calendar as it was told, slot 1 what came of two acts. */
+    private static CalendarSync kept() {
+        CalendarSync x = Feeding.of("zone 0;event 3 4 10 0 every 1 days times 6;");
+        x.keep(0);
+        x.cancel(0, 0, 0);
+        x.sync(0);
+        x.keep(1);
+        return x;
     }
 
     private void slots() {
-        CalendarSync x = Feeding.of("zone 0;event 3 4 10 0 every 1 days times 30;");
+        CalendarSync x = Feeding.of("zone 0;event 3 4 10 0 every 1 days times 6;");
+        String first = Picture.of(x);
         checks.element("34 empty", () -> x.restore(0));
         checks.element("34 empty", () -> x.restore(1));
         checks.same("33 clock", 0, x.keep(0));
         x.cancel(0, 0, 0);
         x.sync(0);
         checks.same("33 clock", 1, x.keep(1));
-        String one = picture(x);
-        x.remove(1, 0);
-        x.setZone(0, 9, 9, 9);
-        checks.same("33 undo stays", 3, x.undo());
-        checks.same("34 clock", 0, x.restore(0));
-        checks.state("34 nothing can be undone", () -> x.undo());
-        checks.same("34 as it was", 0, x.event(0, 0, 10));
-        checks.same("34 accounts", 0, x.account(0, 3));
-        checks.same("34 clock", 1, x.restore(1));
-        checks.holds("34 as it was", one.equals(picture(x)));
-        x.cancel(0, 0, 5);
-        checks.holds("34 the slot is apart", !one.equals(picture(x)));
-        checks.same("34 it stays there", 1, x.restore(1));
-        checks.holds("34 as it was", one.equals(picture(x)));
-        x.setZone(0, 9, 9, 9);
-        checks.same("33 in place of what it had", 2, x.keep(1));
-        x.setZone(0, 10, NONE, 0);
-        checks.same("34 the later one", 2, x.restore(1));
-        checks.same("34 the other slot stays", 0, x.restore(0));
-        x.feed(0x20202020, 0x20202020, 0x20202020, 0x20202020, 0x20202020);
-        x.restore(1);
-        checks.same("34 the buffer stays", 40, x.feed(0, 0, 0, 0, 0));
+        CalendarSync z = kept();
+        String second = Picture.of(kept());
+        z.remove(1, 0);
+        z.setZone(0, 9, 9, 9);
+        checks.same("33 undo stays", 3, z.undo());
+        checks.same("34 clock", 0, z.restore(0));
+        checks.state("34 nothing can be undone", () -> z.undo());
+        checks.holds("34 as it was", first.equals(Picture.of(z)));
+        CalendarSync both = kept();
+        both.restore(0);
+        checks.same("34 clock", 1, both.restore(1));
+        checks.holds("34 as it was", second.equals(Picture.of(both)));
+        CalendarSync again = kept();
+        again.restore(1);
+        again.cancel(0, 0, 5);
+        again.cancel(1, 0, 4);
+        again.sync(1);
+        again.setZone(0, 9, 9, 9);
+        checks.same("34 it stays there", 1, again.restore(1));
+        checks.holds("34 the slot is apart", second.equals(Picture.of(again)));
+        again.setZone(0, 9, 9, 9);
+        checks.same("33 in place of what it had", 2, again.keep(1));
+        again.setZone(0, 10, NONE, 0);
+        checks.same("34 the later one", 2, again.restore(1));
+        checks.same("34 the other slot stays", 0, again.restore(0));
+        again.feed(0x20202020, 0x20202020, 0x20202020, 0x20202020, 0x20202020);
+        again.restore(1);
+        checks.same("34 the buffer stays", 40, again.feed(0, 0, 0, 0, 0));
         checks.argument("33 slot", () -> x.keep(2));
         checks.argument("33 slot", () -> x.keep(-1));
         checks.argument("34 slot", () -> x.restore(2));
