@@ -3,7 +3,7 @@ import java.lang.management.ManagementFactory;
 
 /** The room: an object makes its rows in the constructor, and the calls make none but the exceptions they throw. */
 final class RoomTests {
-    private static final int CALLS = 512;
+    private static final int CALLS = 448;
     /** About 30,000 fields and elements of at most 8 bytes, and 2,200 heads. */
     private static final long BYTES_OF_AN_OBJECT = 400_000;
     private static final String TEXT = "zone 0 summer 5 200;zone 60;"
